@@ -1,6 +1,6 @@
 /**
  * The processor MIPS32 (first release) as a program of one user has it, with its coprocessor for
- * fractions. The promises are those of DOC.md; here stand only the checks of arguments.
+ * fractions. The class itself checks arguments and throws; the classes inside it never throw.
  */
 public final class DelayCore {
     private static final int DONE = 0;
@@ -1097,7 +1097,7 @@ public final class DelayCore {
         private static final int TOP = 62;
         /** Bits below a double's last one; a single has more. */
         private static final int SPARE = 10;
-        /** More digits than a double has, so that the rest only decides which side of a tie. */
+        /** A double's and more: of what lies below these only whether it is nothing counts. */
         private static final int DIGITS = 56;
 
         private boolean negative;
@@ -1177,6 +1177,7 @@ public final class DelayCore {
             if (kind != FINITE || exponent > 31) {
                 return NO_WORD;
             }
+            // Below a half it only matters that something is there.
             boolean tiny = exponent < -1;
             long whole = tiny ? 1 : mantissa;
             int shift = tiny ? TOP + 1 : TOP - exponent;

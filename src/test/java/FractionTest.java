@@ -47,6 +47,7 @@ public final class FractionTest {
             doubles(b, RANDOM.nextInt(8) == 0 ? b ^ RANDOM.nextInt(4) : someDouble());
             oneDouble(b);
         }
+        products();
         words();
         moves();
         conditionPlaces();
@@ -61,9 +62,11 @@ public final class FractionTest {
     private static int someSingle() {
         int sign = RANDOM.nextInt(2) << 31;
         int mantissa = RANDOM.nextInt() >>> 9 & -1 << RANDOM.nextInt(24);
-        switch (RANDOM.nextInt(4)) {
+        switch (RANDOM.nextInt(5)) {
             case 0:
                 return sign | RANDOM.nextInt() >>> 9 >>> RANDOM.nextInt(23);
+            case 3:
+                return sign | 126 + RANDOM.nextInt(4) << 23 | 1 << RANDOM.nextInt(23) | 1 << RANDOM.nextInt(23);
             case 1:
                 return sign | 120 + RANDOM.nextInt(40) << 23 | mantissa;
             case 2:
@@ -76,9 +79,11 @@ public final class FractionTest {
     private static long someDouble() {
         long sign = RANDOM.nextLong() << 63;
         long mantissa = RANDOM.nextLong() >>> 12 & -1L << RANDOM.nextInt(53);
-        switch (RANDOM.nextInt(5)) {
+        switch (RANDOM.nextInt(6)) {
             case 0:
                 return sign | RANDOM.nextLong() >>> 12 >>> RANDOM.nextInt(52);
+            case 4:
+                return sign | 1022L + RANDOM.nextInt(4) << 52 | 1L << RANDOM.nextInt(52) | 1L << RANDOM.nextInt(52);
             case 1:
                 return sign | 1015L + RANDOM.nextInt(45) << 52 | mantissa;
             case 2:
@@ -147,14 +152,24 @@ public final class FractionTest {
         }
     }
 
+    /** Other work between the words, so that none can lean on what the one before took apart. */
+    private static Rig apart(int... words) {
+        int[] code = new int[2 * words.length];
+        for (int i = 0; i < words.length; i++) {
+            code[2 * i] = Asm.fraction(2, Asm.D, 28, 26, 24);
+            code[2 * i + 1] = words[i];
+        }
+        return new Rig(code).withDouble(26, bits(-12345.678)).withDouble(24, bits(0.1));
+    }
+
     private static void single(int a) {
         float x = Float.intBitsToFloat(a);
         int s = Asm.S;
-        Rig rig = new Rig(Asm.fraction(4, s, 5, 3, 31), Asm.fraction(5, s, 6, 3, 31), Asm.fraction(7, s, 7, 3, 31),
+        Rig rig = apart(Asm.fraction(4, s, 5, 3, 31), Asm.fraction(5, s, 6, 3, 31), Asm.fraction(7, s, 7, 3, 31),
             Asm.fraction(6, s, 8, 3, 31), Asm.fraction(33, s, 10, 3, 31), Asm.fraction(12, s, 12, 3, 31),
             Asm.fraction(13, s, 13, 3, 31), Asm.fraction(14, s, 14, 3, 31), Asm.fraction(15, s, 15, 3, 31),
             Asm.fraction(36, s, 16, 3, 31)).with(Rig.FRACTION + 3, a);
-        CHECK.due("run", rig.core.run(10), 10);
+        CHECK.due("run", rig.core.run(20), 20);
         CHECK.due(told("SQRT.S", a, 0), rig.core.get(Rig.FRACTION + 5), due((float) Math.sqrt(x)));
         CHECK.due(told("ABS.S", a, 0), rig.core.get(Rig.FRACTION + 6), due(Math.abs(x)));
         CHECK.due(told("NEG.S", a, 0), rig.core.get(Rig.FRACTION + 7), due(-x));
@@ -166,11 +181,11 @@ public final class FractionTest {
     private static void oneDouble(long a) {
         double x = Double.longBitsToDouble(a);
         int d = Asm.D;
-        Rig rig = new Rig(Asm.fraction(4, d, 4, 2, 31), Asm.fraction(5, d, 6, 2, 31), Asm.fraction(7, d, 8, 2, 31),
+        Rig rig = apart(Asm.fraction(4, d, 4, 2, 31), Asm.fraction(5, d, 6, 2, 31), Asm.fraction(7, d, 8, 2, 31),
             Asm.fraction(6, d, 18, 2, 31), Asm.fraction(32, d, 11, 2, 31), Asm.fraction(12, d, 12, 2, 31),
             Asm.fraction(13, d, 13, 2, 31), Asm.fraction(14, d, 14, 2, 31), Asm.fraction(15, d, 15, 2, 31),
             Asm.fraction(36, d, 16, 2, 31)).withDouble(2, a);
-        CHECK.due("run", rig.core.run(10), 10);
+        CHECK.due("run", rig.core.run(20), 20);
         CHECK.due(told("SQRT.D", a, 0), rig.doubleIn(4), due(Math.sqrt(x)));
         CHECK.due(told("ABS.D", a, 0), rig.doubleIn(6), due(Math.abs(x)));
         CHECK.due(told("NEG.D", a, 0), rig.doubleIn(8), due(-x));
@@ -187,6 +202,20 @@ public final class FractionTest {
             boolean fits = whole[i] >= Integer.MIN_VALUE && whole[i] <= Integer.MAX_VALUE;
             int want = fits ? (int) whole[i] : Integer.MAX_VALUE;
             CHECK.due(told(names[i], a, 0), rig.core.get(Rig.FRACTION + 12 + i), want);
+        }
+    }
+
+    /** Few bits make ties, and ties that one bit far below decides. */
+    private static void products() {
+        for (int i = 1; i < 53; i++) {
+            for (int far = 1; far < 53; far++) {
+                long a = bits(1) | 1L << 52 - i;
+                long b = bits(1) | 1L << i - 1 | 1L << 52 - far;
+                double due = Double.longBitsToDouble(a) * Double.longBitsToDouble(b);
+                Rig rig = new Rig(Asm.fraction(2, Asm.D, 6, 2, 4)).withDouble(2, a).withDouble(4, b);
+                rig.core.run(1);
+                CHECK.due(told("MUL.D", a, b), rig.doubleIn(6), bits(due));
+            }
         }
     }
 
@@ -235,6 +264,12 @@ public final class FractionTest {
     }
 
     private static void conditionPlaces() {
+        Rig first = new Rig(Asm.compare(4, Asm.S, 0, 1, 2), Asm.compare(4, Asm.S, 1, 2, 1))
+            .with(Rig.FRACTION + 1, due(1.0f)).with(Rig.FRACTION + 2, due(2.0f));
+        first.core.run(1);
+        CHECK.due("C.OLT alone", first.core.get(Rig.CONDITIONS), 1);
+        first.core.run(1);
+        CHECK.due("C.OLT the other way", first.core.get(Rig.CONDITIONS), 1);
         for (int cc = 0; cc < 8; cc++) {
             for (int held : new int[] {0, 255, 0xA5}) {
                 Rig holds = new Rig(Asm.compare(2, Asm.S, cc, 1, 1)).with(Rig.CONDITIONS, held);
