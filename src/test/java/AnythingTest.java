@@ -84,7 +84,8 @@ public final class AnythingTest {
         DelayCore other = new DelayCore(size);
         for (int i = 0; i < 200; i++) {
             int call = RANDOM.nextInt(12);
-            int a = RANDOM.nextInt(3) == 0 ? RANDOM.nextInt() : 4 * RANDOM.nextInt(64) + (RANDOM.nextInt(20) == 0 ? 1 : 0);
+            int a = RANDOM.nextInt(3) == 0 ? RANDOM.nextInt() : 4 * RANDOM.nextInt(64)
+                + (RANDOM.nextInt(20) == 0 ? 1 : 0);
             int b = RANDOM.nextInt(3) == 0 ? someValue() : someWord();
             CHECK.due("call " + call, told(other, call, a, b), told(one, call, a, b));
         }

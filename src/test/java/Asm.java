@@ -4,6 +4,11 @@ final class Asm {
     static final int S = 16;
     static final int D = 17;
     static final int W = 20;
+    static final int LB = 0b100000, LH = 0b100001, LWL = 0b100010, LW = 0b100011;
+    static final int LBU = 0b100100, LHU = 0b100101, LWR = 0b100110;
+    static final int SB = 0b101000, SH = 0b101001, SWL = 0b101010, SW = 0b101011, SWR = 0b101110;
+    static final int LL = 0b110000, LWC1 = 0b110001, PREF = 0b110011, LDC1 = 0b110101;
+    static final int SC = 0b111000, SWC1 = 0b111001, SDC1 = 0b111101;
 
     private Asm() {
     }
@@ -22,6 +27,11 @@ final class Asm {
 
     static int immediate(int opcode, int rs, int rt, int immediate) {
         return opcode << 26 | rs << 21 | rt << 16 | immediate & 0xFFFF;
+    }
+
+    /** A load or store. */
+    static int access(int opcode, int rt, int base, int offset) {
+        return immediate(opcode, base, rt, offset);
     }
 
     static int fraction(int function, int format, int fd, int fs, int ft) {

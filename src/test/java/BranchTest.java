@@ -1,9 +1,11 @@
-/** Branches, jumps, slots and likely ones; by promises 7 and 10. */
+/** Terms, branches, jumps, slots and likely ones: the lists of the document, gone through. */
 public final class BranchTest {
     private static final Check CHECK = new Check("BranchTest");
+    private static final String TERMS = "Terms, INSTRUCTIONS";
     private static final int[] VALUES = {0, 1, -1, Integer.MAX_VALUE, Integer.MIN_VALUE};
 
     public static void main(String[] args) {
+        CHECK.sentence(TERMS, "BEQ BNE BLEZ BGTZ BLTZ BGEZ BLTZAL BGEZAL and all eight with L behind (likely)");
         for (int a : VALUES) {
             for (int b : VALUES) {
                 registers(4, a, b, a == b);
@@ -55,6 +57,7 @@ public final class BranchTest {
     }
 
     private static void conditions() {
+        CHECK.sentence(TERMS, "BC1F BC1T BC1FL BC1TL");
         for (int cc = 0; cc < 8; cc++) {
             for (int held : new int[] {0, 255, 1 << cc, 255 ^ 1 << cc}) {
                 boolean holds = (held >> cc & 1) != 0;
@@ -70,6 +73,8 @@ public final class BranchTest {
     }
 
     private static void backwards() {
+        CHECK.sentence("Terms, STEP",
+            "PC is the address of the instruction that comes, NEXT that of the one behind it.");
         Rig rig = new Rig(Asm.addiu(1, 0, 10), Asm.addiu(2, 2, 3), Asm.addiu(1, 1, -1), Asm.bne(1, 0, -3),
             Asm.addiu(3, 3, 1), Asm.breakWith(0));
         CHECK.due("loop", rig.core.run(10_000), 41);
@@ -89,6 +94,7 @@ public final class BranchTest {
     }
 
     private static void jumps() {
+        CHECK.sentence(TERMS, "J JAL JR JALR");
         Rig j = new Rig(Asm.j(0x0FFFFFFC), Asm.addiu(5, 5, 1)).with(31, 3);
         j.core.run(2);
         CHECK.due("J", j.core.state(0), 0x0FFFFFFC);

@@ -5,11 +5,28 @@ final class Check {
     }
 
     private final String test;
+    private String held = "";
+    private int sentences;
+    private int askedBefore;
     private int asked;
     private int wrong;
 
     Check(String test) {
         this.test = test;
+    }
+
+    /** From here on this sentence of the document is held; one under which nothing is asked is a fault. */
+    void sentence(String place, String words) {
+        closeSentence();
+        held = place + ", \"" + words + "\": ";
+        sentences++;
+        askedBefore = asked;
+    }
+
+    private void closeSentence() {
+        if (sentences > 0 && asked == askedBefore) {
+            tell("nothing is asked");
+        }
     }
 
     void due(String what, long got, long want) {
@@ -42,12 +59,14 @@ final class Check {
     private void tell(String line) {
         wrong++;
         if (wrong <= 50) {
-            System.out.println(test + ": " + line);
+            System.out.println(test + ": " + held + line);
         }
     }
 
     void close() {
-        System.out.println(test + ": " + asked + " asked, " + wrong + " wrong");
+        closeSentence();
+        String of = sentences == 0 ? "" : " of " + sentences + " sentences";
+        System.out.println(test + ": " + asked + " asked" + of + ", " + wrong + " wrong");
         if (wrong != 0) {
             System.exit(1);
         }

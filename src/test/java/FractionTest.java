@@ -1,9 +1,10 @@
 import java.util.Random;
 
-/** Singles and doubles against the Java machine's own; by promise 7. */
+/** Terms, singles and doubles: the lists of the document, against the Java machine's own. */
 public final class FractionTest {
     private static final Check CHECK = new Check("FractionTest");
     private static final Random RANDOM = new Random(3);
+    private static final String TERMS = "Terms, FRACTIONS";
     private static final int NO_SINGLE = 0x7FBFFFFF;
     private static final long NO_DOUBLE = 0x7FF7FFFFFFFFFFFFL;
 
@@ -27,6 +28,8 @@ public final class FractionTest {
         0x3FF0000030000000L, 0x3FF0000010000001L, 0x4340000000000000L, 0x5FE0000000000000L, 0x1FF0000000000000L};
 
     public static void main(String[] args) {
+        CHECK.sentence(TERMS,
+            "of formats S and D: ADD SUB MUL DIV SQRT ABS MOV NEG ROUND.W TRUNC.W CEIL.W FLOOR.W CVT.W");
         for (int a : SINGLES) {
             for (int b : SINGLES) {
                 singles(a, b);
@@ -207,6 +210,7 @@ public final class FractionTest {
 
     /** Few bits make ties, and ties that one bit far below decides. */
     private static void products() {
+        CHECK.sentence(TERMS, "rounded to the nearest, of two the even one");
         for (int i = 1; i < 53; i++) {
             for (int far = 1; far < 53; far++) {
                 long a = bits(1) | 1L << 52 - i;
@@ -220,6 +224,7 @@ public final class FractionTest {
     }
 
     private static void words() {
+        CHECK.sentence(TERMS, "CVT.S of D and W, CVT.D of S and W");
         int[] edges = {0, 1, -1, 16777215, 16777216, 16777217, 16777218, 16777219, -16777217, 33554434, 33554435,
             33554438, Integer.MAX_VALUE, Integer.MIN_VALUE, Integer.MIN_VALUE + 1, 0x7FFFFFBF, 0x7FFFFFC0, 0x7FFFFF80};
         for (int i = 0; i < 2000; i++) {
@@ -234,6 +239,7 @@ public final class FractionTest {
 
     /** Bits stay as they are, also of what is no number; a move that is not asked for changes nothing. */
     private static void moves() {
+        CHECK.sentence(TERMS, "MOVF MOVT MOVZ MOVN");
         long none = 0xFFF0000000000001L;
         for (int format : new int[] {Asm.S, Asm.D}) {
             for (int v : new int[] {0, 1, -1, Integer.MIN_VALUE}) {
@@ -249,6 +255,7 @@ public final class FractionTest {
                 }
             }
         }
+        CHECK.sentence(TERMS, "MFC1 MTC1");
         Rig rig = new Rig(0x44890000 | 3 << 11, 0x440A0000 | 3 << 11).with(9, 0x7F800001);
         rig.core.run(2);
         CHECK.due("MTC1", rig.core.get(Rig.FRACTION + 3), 0x7F800001);
@@ -264,6 +271,7 @@ public final class FractionTest {
     }
 
     private static void conditionPlaces() {
+        CHECK.sentence(TERMS, "C with all sixteen conditions");
         Rig first = new Rig(Asm.compare(4, Asm.S, 0, 1, 2), Asm.compare(4, Asm.S, 1, 2, 1))
             .with(Rig.FRACTION + 1, due(1.0f)).with(Rig.FRACTION + 2, due(2.0f));
         first.core.run(1);
@@ -283,6 +291,7 @@ public final class FractionTest {
     }
 
     private static void sameRegister() {
+        CHECK.sentence(TERMS, "a double is in an even one (its low word) and the next one (its high word)");
         Rig rig = new Rig(Asm.fraction(0, Asm.D, 2, 2, 2), Asm.fraction(2, Asm.D, 2, 2, 2),
             Asm.fraction(3, Asm.D, 4, 2, 2), Asm.fraction(1, Asm.D, 6, 2, 2)).withDouble(2, bits(1.5));
         rig.core.run(4);

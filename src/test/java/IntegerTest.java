@@ -1,6 +1,6 @@
 import java.util.Random;
 
-/** The instructions on registers, HI and LO, against the Java library; by promise 7. */
+/** Terms, the instructions on registers, HI and LO: each list of the document, against the Java library. */
 public final class IntegerTest {
     private interface Rule {
         int of(int a, int b);
@@ -14,6 +14,7 @@ public final class IntegerTest {
         0x10000, 0x12345678, 0x80000000, 0x80000001, 0x7FFFFFFF, 0x7FFFFFFE, 0xAAAAAAAA};
     private static final Random RANDOM = new Random(1);
     private static final Check CHECK = new Check("IntegerTest");
+    private static final String TERMS = "Terms, INSTRUCTIONS";
 
     public static void main(String[] args) {
         threeRegisters();
@@ -53,6 +54,7 @@ public final class IntegerTest {
     }
 
     private static void threeRegisters() {
+        CHECK.sentence(TERMS, "ADD ADDU SUB SUBU AND OR XOR NOR SLT SLTU");
         pairs("SLLV", word(4), (a, b) -> b << (a & 31));
         pairs("SRLV", word(6), (a, b) -> b >>> (a & 31));
         pairs("SRAV", word(7), (a, b) -> b >> (a & 31));
@@ -82,6 +84,7 @@ public final class IntegerTest {
     }
 
     private static void shifts() {
+        CHECK.sentence(TERMS, "SLL SRL SRA SLLV SRLV SRAV");
         for (int sa = 0; sa < 32; sa++) {
             int by = sa;
             pairs("SLL", Asm.special(0, 8, 9, 10, sa), (a, b) -> b << by);
@@ -91,6 +94,7 @@ public final class IntegerTest {
     }
 
     private static void immediates() {
+        CHECK.sentence(TERMS, "ADDI ADDIU SLTI SLTIU ANDI ORI XORI LUI");
         for (int value : new int[] {0, 1, -1, 2, 0x7FFF, -0x8000, 0x1234, -0x1234}) {
             int low = value & 0xFFFF;
             pairs("ADDIU", Asm.immediate(9, 8, 10, value), (a, b) -> a + value);
@@ -109,6 +113,7 @@ public final class IntegerTest {
     }
 
     private static void moves() {
+        CHECK.sentence(TERMS, "MOVZ MOVN MOVF MOVT");
         for (int cc = 0; cc < 8; cc++) {
             for (int asked = 0; asked < 2; asked++) {
                 for (int conditions : new int[] {0, 255, 1 << cc, 255 ^ 1 << cc}) {
@@ -149,6 +154,7 @@ public final class IntegerTest {
     }
 
     private static void hiAndLo() {
+        CHECK.sentence(TERMS, "MULT MULTU DIV DIVU MADD MADDU MSUB MSUBU MUL MFHI MFLO MTHI MTLO");
         wide("MULT", word(24), (a, b, before) -> (long) a * b);
         wide("MULTU", word(25), (a, b, before) -> unsignedProduct(a, b));
         wide("MADD", Asm.special2(0, 8, 9, 0), (a, b, before) -> before + (long) a * b);
@@ -173,6 +179,7 @@ public final class IntegerTest {
     }
 
     private static void registerZero() {
+        CHECK.sentence(TERMS, "What is written into register 0 is lost.");
         int[] code = {Asm.addiu(0, 0, 5), Asm.special(33, 8, 8, 0, 0), Asm.lw(0, 0, 0), Asm.special2(32, 8, 0, 0),
             Asm.immediate(15, 0, 0, 9), Asm.mflo(0), Asm.special(10, 8, 0, 0, 0), 0x44000000, Asm.jalr(0, 9)};
         Rig rig = new Rig(code).with(8, 3).with(9, 64).with(Rig.LO, 6).with(Rig.FRACTION, 4);
@@ -187,6 +194,7 @@ public final class IntegerTest {
 
     /** Fields that neither say which instruction it is nor are used may hold anything. */
     private static void fieldsNotUsed() {
+        CHECK.sentence(TERMS, "of a word only the fields are looked at that say which instruction it is");
         one("ADDU", Asm.special(33, 8, 9, 10, 31), 2, 3, 5);
         one("SLL", Asm.special(0, 31, 9, 10, 1), 2, 3, 6);
         one("SRL, not a rotation", Asm.special(2, 1, 9, 10, 1), 2, 3, 1);

@@ -1,12 +1,14 @@
 import java.util.Random;
 
-/** Loads and stores against a row of bytes; by promise 7. */
+/** Terms, loads and stores: the list of the document, against a row of bytes. */
 public final class LoadStoreTest {
     private static final Check CHECK = new Check("LoadStoreTest");
     private static final Random RANDOM = new Random(2);
+    private static final String TERMS = "Terms, INSTRUCTIONS";
     private static final int BASE = Rig.DATA;
 
     public static void main(String[] args) {
+        CHECK.sentence(TERMS, "LB LBU LH LHU LW LWL LWR SB SH SW SWL SWR LL SC, LWC1 SWC1 LDC1 SDC1");
         for (int round = 0; round < 40; round++) {
             for (int at = 0; at < 32; at++) {
                 loads(at);
@@ -142,6 +144,7 @@ public final class LoadStoreTest {
     }
 
     private static void links() {
+        CHECK.sentence(TERMS, "LL makes a LINK with its address; SC stores and puts 1 into its register");
         Rig rig = new Rig(Asm.ll(1, 0, BASE), Asm.addiu(1, 1, 1), Asm.sw(5, 0, BASE + 4), Asm.sc(1, 0, BASE),
             Asm.sc(1, 0, BASE));
         rig.core.put(BASE, 41);
@@ -163,6 +166,7 @@ public final class LoadStoreTest {
 
     /** What is stored is what is done next. */
     private static void ownCode() {
+        CHECK.sentence("Terms, STEP", "A STEP does the word at PC.");
         Rig rig = new Rig(Asm.sw(1, 0, 4), Asm.breakWith(0), Asm.breakWith(1)).with(1, Asm.addiu(2, 0, 77));
         CHECK.due("run", rig.core.run(9), 2);
         CHECK.due("done", rig.core.get(2), 77);

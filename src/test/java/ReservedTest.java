@@ -1,10 +1,11 @@
 import java.util.BitSet;
 
-/** Which words are instructions: all fields that say so are gone through; by promises 7 and 8. */
+/** Terms, "All other words are RESERVED.": all fields that say which instruction it is are gone through. */
 public final class ReservedTest {
     private static final Check CHECK = new Check("ReservedTest");
 
     public static void main(String[] args) {
+        CHECK.sentence("Terms, INSTRUCTIONS", "All other words are RESERVED.");
         opcodes();
         functions(0, set(0, 1, 2, 3, 4, 6, 7, 8, 9, 10, 11, 12, 13, 15, 16, 17, 18, 19, 24, 25, 26, 27,
             32, 33, 34, 35, 36, 37, 38, 39, 42, 43, 48, 49, 50, 51, 52, 54), "SPECIAL");

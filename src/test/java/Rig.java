@@ -7,12 +7,25 @@ final class Rig {
     static final int FRACTION = 34;
     static final int CONDITIONS = 66;
 
-    final DelayCore core = new DelayCore(1024);
+    private static final int SIZE = 1024;
+
+    final DelayCore core = new DelayCore(SIZE);
 
     Rig(int... code) {
-        for (int i = 0; i < code.length; i++) {
-            core.put(4 * i, code[i]);
+        this.code(0, code);
+    }
+
+    Rig code(int address, int... words) {
+        for (int i = 0; i < words.length; i++) {
+            core.put(address + 4 * i, words[i]);
         }
+        return this;
+    }
+
+    /** So many steps are done ahead of what is asked. */
+    Rig behind(int steps) {
+        core.run(steps);
+        return this;
     }
 
     Rig with(int which, int v) {
@@ -36,8 +49,17 @@ final class Rig {
         return core.end();
     }
 
-    /** All that a step may change, but how it ended; some 91 calls. */
+    /** What a step mostly changes, but how it ended; some 91 calls. */
     String picture() {
+        return picture(DATA, DATA_WORDS);
+    }
+
+    /** All but how it ended; 331 calls, so that an object can be pictured once. */
+    String wholePicture() {
+        return picture(0, SIZE / 4);
+    }
+
+    private String picture(int from, int words) {
         StringBuilder all = new StringBuilder();
         for (int i = 0; i < 8; i++) {
             all.append('s').append(i).append('=').append(core.state(i)).append(' ');
@@ -45,8 +67,8 @@ final class Rig {
         for (int i = 0; i <= CONDITIONS; i++) {
             all.append('r').append(i).append('=').append(register(i)).append(' ');
         }
-        for (int i = 0; i < DATA_WORDS; i++) {
-            all.append('m').append(i).append('=').append(core.word(DATA + 4 * i)).append(' ');
+        for (int i = 0; i < words; i++) {
+            all.append('m').append(i).append('=').append(core.word(from + 4 * i)).append(' ');
         }
         return all.toString();
     }
