@@ -408,6 +408,14 @@ public final class FractionTermsTest {
                 compared(Asm.D, doubles[i], doubles[k], due);
             }
         }
+        for (int i = 5; i < singles.length; i++) {
+            compared(Asm.S, SIGN, singles[i], LESS);
+            compared(Asm.S, SIGN, SIGN | singles[i], GREATER);
+            compared(Asm.S, SIGN | singles[i], SIGN, LESS);
+            compared(Asm.D, SIGN_D, doubles[i], LESS);
+            compared(Asm.D, SIGN_D, SIGN_D | doubles[i], GREATER);
+            compared(Asm.D, SIGN_D | doubles[i], SIGN_D, LESS);
+        }
         compared(Asm.S, 0, SIGN, EQUAL);
         compared(Asm.S, SIGN, 0, EQUAL);
         compared(Asm.D, 0, SIGN_D, EQUAL);
