@@ -28,7 +28,7 @@ public final class RegisterTermsTest {
         CHECK.due("and again", rig.core.set(0, 9), 0);
     }
 
-    /** "HI and LO, each perhaps UNKNOWN.": both, HI alone, LO alone, none. */
+    /** "HI and LO, each perhaps UNKNOWN.": both, HI alone, LO alone, none; moving to one leaves the other. */
     private static void hiAndLo() {
         CHECK.sentence(TERMS, "HI and LO, each perhaps UNKNOWN.");
         int[][] makers = {{Asm.mthi(1), Rig.HI, Rig.LO}, {Asm.mtlo(1), Rig.LO, Rig.HI}};
@@ -42,6 +42,12 @@ public final class RegisterTermsTest {
             rig.core.set(maker[2], 7);
             CHECK.due("the other is, too", rig.core.get(maker[2]), 7);
             CHECK.due("the one stays", rig.core.get(maker[1]), 6);
+            Rig known = new Rig(Asm.special(24, 1, 1, 0, 0), maker[0], Asm.mfhi(2), Asm.mflo(3)).with(1, 0x10001);
+            CHECK.due("behind MULT, each is moved alone", known.core.run(4), 4);
+            CHECK.due("the one is moved", known.core.get(maker[1]), 0x10001);
+            CHECK.due("the other one is the product's", known.core.get(maker[2]), maker[2] == Rig.HI ? 1 : 0x20001);
+            CHECK.due("HI is asked", known.core.get(2), known.core.get(Rig.HI));
+            CHECK.due("LO is asked", known.core.get(3), known.core.get(Rig.LO));
         }
     }
 
