@@ -116,7 +116,7 @@ public final class ModelTest {
                 break;
         }
         ask(END, 0, 0);
-        if (core.end() != 0 && random.nextInt(3) != 0) {
+        if (model.end != 0 && random.nextInt(3) != 0) {
             ask(PASS, 0, 0);
             ask(GO, 4 * random.nextInt(24), 0);
         }
